@@ -450,7 +450,10 @@ public final class PointingNotes {
         }
 
         static boolean hasAllOf(long one, long two) {
-            return has(one, report(two)) && (other(two) == 0 || has(one, other(two)));
+            int report = report(two);
+            int other = other(two);
+            if (report != report(one) && report != other(one)) return false;
+            return other == 0 || other == report(one) || other == other(one);
         }
 
         static boolean haveSameName(long one, long two) {
@@ -646,8 +649,11 @@ public final class PointingNotes {
         /** The slots of the full references, as a set. */
         int fullSlots() {
             int set = 0;
-            for (int slot = 0; slot < SLOTS; slot++) {
-                if (hasSlot(slot) && Cite.form(cites[slot]) == FORM_FULL) set |= 1 << slot;
+            for (int note = 0; note < notes; note++) {
+                for (int reference = 0; reference < size(note); reference++) {
+                    int slot = slotOf(note, reference);
+                    if (Cite.form(cite(slot)) == FORM_FULL) set |= 1 << slot;
+                }
             }
             return set;
         }
@@ -916,7 +922,7 @@ public final class PointingNotes {
         void studyPart(int notes) {
             studiedVersion = NEVER;
             if (linkedVersion != paper.version()) linkFullReferences();
-            present = notes;
+            present = notes & (1 << paper.notes()) - 1;
             joinCases();
             alive = 0;
             dead = 0;
@@ -935,7 +941,7 @@ public final class PointingNotes {
         }
 
         private boolean isPresent(int note) {
-            return paper.hasNote(note) && (present >> note & 1) == 1;
+            return note >= 0 && note < MOST_NOTES && (present >> note & 1) == 1;
         }
 
         private void linkFullReferences() {

@@ -25,6 +25,11 @@ public final class FoundTest {
             + "found(0, 0, 0) = 0; found(1, 0, 0) = 1; found(2, 0, 0) = 1; found(3, 0, 0) = 1");
         Run.on("promise 12, first and second reports join crosswise", "AB1r05=2s10;CD2s10=1r05;EF2s10;AC3r05=1s05;AD1s05=4r04")
             .due("count(3) = 2; found(4, 0, 0) = 1; found(2, 0, 0) = 0");
+        // each next one of the chain stands on the other side of those that are joined already
+        Run.on("promise 12, a chain in zigzag", "AB1r01;BC1s01=2r01,CD2s01=3r01;DE3s01;EF3r01=3s01,FA2r01=2s01;AC1r01=1s01").due("count(3) = 1;"
+            + "found(2, 0, 0) = 0; aCase(0, 3) = 6; cut(4, 0) = 4; count(3) = 2; found(2, 0, 0) = 1; found(1, 0, 0) = 1");
+        Run.on("promise 12, a chain through a later and an earlier one", "AB1r01;AB2s02=3r03;AB1r01=2s02;AB3r03").due("count(3) = 1;"
+            + "found(3, 0, 0) = 0; cut(2, 0) = 3; count(3) = 2; found(2, 0, 0) = 1");
         Run.on("promise 12, errors in their order", "AB1r05;A").due("found(2, 0, 0) = -1; found(0, 1, 3) = -1; found(-1, 0, 3) = -1;"
             + "found(0, -1, 0) = -1; found(0, 0, 3) = -2; found(0, 0, -1) = -2; found(2147483647, 0, 0) = -1;"
             + "found(0, 2147483647, 0) = -1; found(1, 0, -2147483648) = -2");
@@ -63,7 +68,9 @@ public final class FoundTest {
             + "found(0, 2, 2) = 2; found(0, 3, 2) = 0; found(1, 0, 2) = 0; found(1, 1, 2) = 3; found(1, 2, 2) = 3; found(1, 3, 2) = 0;"
             + "found(2, 0, 2) = 1; found(2, 1, 2) = 4; found(2, 2, 2) = 2; found(2, 3, 2) = 0");
         Run.on("promise 12, another volume or series does not end a case", "AB1r20@99;CD2r40;EF1s40").due("found(0, 0, 2) = 0");
-        Run.on("promise 12, a second report ends a case", "AB1r20@50,A@40;CD3s01=1r41").due("found(0, 0, 2) = 3; found(0, 1, 2) = 0");
+        Run.on("promise 12, a second report ends a case", "AB1r20@50,A@40,A@41;CD3s01=1r41").due("found(0, 0, 2) = 3;"
+            + "found(0, 1, 2) = 0; found(0, 2, 2) = 3");
+        Run.on("promise 12, a case that was cited before ends a case", "CD1r41;AB1r20@50").due("found(1, 0, 2) = 3; cut(0, 0) = 1; found(0, 0, 2) = 0");
         Run.on("promise 12, a report of the same case does not", "AB1r20@50;AB1r20=2s10;AB2s10=1r30").due("count(3) = 1; found(0, 0, 2) = 0");
         Run.on("promise 12, the first report of the case counts, not the own one", "AB1r20;AB1r20=2s50;AB2s50@30;EF1r30")
             .due("found(2, 0, 2) = 3; cut(3, 0) = 3; found(2, 0, 2) = 0");
@@ -77,6 +84,8 @@ public final class FoundTest {
         Run.on("promise 13", "FE9s99,A;AB1r05=2s10,A;CD2s10=7r07@08,i;AB1r05,B;FE9s99").due(
             "aCase(0, 0) = 5; aCase(0, 1) = 4; aCase(0, 2) = 9199; aCase(0, 3) = 1; aCase(0, 4) = 0; aCase(0, 5) = 17; aCase(0, 6) = 2;"
             + "aCase(1, 0) = 0; aCase(1, 1) = 1; aCase(1, 2) = 1005; aCase(1, 3) = 3; aCase(1, 4) = 1; aCase(1, 5) = 14; aCase(1, 6) = 5");
+        Run.on("promise 13, different reports", "AB1r05=2s10;AB2s10=3r07;AB3r07;AB2s10=1r05").due("aCase(0, 3) = 3; cut(1, 0) = 3; aCase(0, 3) = 2;"
+            + "aCase(1, 3) = 1");
         Run.on("promise 13, only the second letter clashes", "AB1r05;AC1r05").due("aCase(0, 4) = 1; count(5) = 1; aCase(0, 3) = 1");
         Run.on("promise 13, only the first letter clashes", "AC1r05;BC1r05").due("aCase(0, 4) = 1; count(5) = 1");
         Run.on("promise 13, several in one note", "AB1r05,AB1r05,i,A").due("aCase(0, 5) = 1; aCase(0, 6) = 4; aCase(0, 4) = 0");
@@ -90,6 +99,7 @@ public final class FoundTest {
             + "table(3) = 4; table(4) = 3; table(5) = -1; table(-1) = -1");
         Run.on("promise 14, by series, volume, page", "AB1s01,AB2r01,AB1r99,AB1r02;AB1s02,AB9r50").due("table(0) = 3; table(1) = 2;"
             + "table(2) = 1; table(3) = 5; table(4) = 0; table(5) = 4; table(6) = -1");
+        Run.on("promise 14, names before series", "AC1r01,AB9s99,BA9s98").due("table(0) = 1; table(1) = 0; table(2) = 2");
         Run.on("promise 14, by the first name and the first report", "CD9s99=1r01;AB9s99;BC2r02").due("count(3) = 2; table(0) = 1;"
             + "table(1) = 0; table(2) = -1; table(2147483647) = -1; table(-2147483648) = -1");
     }

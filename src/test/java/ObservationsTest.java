@@ -53,7 +53,9 @@ public final class ObservationsTest {
                 }
             }
         }
-        Run.on("the reports of all full references of a case count", "AB1r05;CD1r05=7s07").due("see(3, 7, 1) = 1; which(0) = 1; see(4, 1, 1) = 2;"
+        Run.on("promise 20, the first page of the last volume", "AB9r01").due("see(3, 9, 1) = 1; which(0) = 1; see(3, 8, 0) = 2; which(0) = 1;"
+            + "see(4, 0, 1) = 3; which(0) = 1; see(4, 1, 1) = 4; which(0) = 0");
+        Run.on("promise 20, the reports of all full references of a case count", "AB1r05;CD1r05=7s07").due("see(3, 7, 1) = 1; which(0) = 1; see(4, 1, 1) = 2;"
             + "which(0) = 1; see(0, 2, 1) = 3; which(0) = 0");
     }
 }
