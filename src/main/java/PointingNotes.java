@@ -772,8 +772,8 @@ public final class PointingNotes {
         private final int[] sizes;
         private final long[] cites;
 
-        Shelf(int places) {
-            this.places = places;
+        Shelf(int wanted) {
+            places = Math.max(wanted, 0);
             filled = new boolean[places];
             notes = new int[places];
             sizes = new int[places * MOST_NOTES];

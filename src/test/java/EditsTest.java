@@ -130,21 +130,29 @@ public final class EditsTest {
     /** The largest paper: 32 cases, two reports and a pin each, in 479 characters. */
     private static void largestPaper() {
         Run run = Run.fresh("the largest paper");
-        StringBuilder all = new StringBuilder();
-        for (int note = 0; note < 8; note++) {
-            StringBuilder text = new StringBuilder();
-            for (int i = 0; i < 4; i++) {
-                text.append(i > 0 ? "," : "").append("FE").append(9 - note).append("r4").append(9 - i);
-                text.append("=").append(9 - note).append("s9").append(i).append("@99");
-            }
-            run.text(text.toString());
-            run.due("put(" + note + ", 1) = " + (note + 1));
-            all.append(note > 0 ? ";" : "").append(text);
-        }
+        for (int note = 0; note < 8; note++) run.text(largestNote(note)).due("put(" + note + ", 1) = " + (note + 1));
         run.due("count(2) = 32; count(3) = 32; count(4) = 0; aCase(31, 2) = 2046; table(0) = 31; table(31) = 0; table(32) = -1;"
             + "aCase(31, 5) = 128; aCase(31, 3) = 2; share(7, true) = 4; share(7, false) = 1; found(7, 3, 2) = 3;"
             + "found(7, 0, 2) = 0; found(7, 3, 0) = 31; drawn(20) = 640; print(0, -1) = 479; print(1, -1) = 479; which(0) = 32;"
             + "see(2, 7, 1) = 1; which(1) = 28; print(0, 478) = 57; print(1, 479) = -9");
-        run.prints(0, all.toString());
+        largestPaperPrinted(0, 239);
+        largestPaperPrinted(240, 478);
+    }
+
+    private static String largestNote(int note) {
+        StringBuilder text = new StringBuilder();
+        for (int i = 0; i < 4; i++) {
+            text.append(i > 0 ? "," : "").append("FE").append(9 - note).append("r4").append(9 - i);
+            text.append("=").append(9 - note).append("s9").append(i).append("@99");
+        }
+        return text.toString();
+    }
+
+    /** A part of 479 characters: all of them would be more calls than an object is used for. */
+    private static void largestPaperPrinted(int from, int to) {
+        Run run = Run.fresh("the largest paper, printed").text(largestNote(0));
+        for (int note = 0; note < 8; note++) run.due("put(" + note + ", 1) = " + (note + 1));
+        String all = String.join(";", java.util.Collections.nCopies(8, largestNote(0)));
+        for (int place = from; place <= to; place++) run.due("print(0, " + place + ") = " + (int) all.charAt(place));
     }
 }

@@ -3,11 +3,14 @@ import java.lang.reflect.Method;
 
 /** Runs of calls on new objects, written as the document writes its examples: "write(65) = 1; paper() = -3". */
 final class Run {
+    /** What an object answers after so many calls is free. */
+    private static final int MOST_CALLS = 512;
     private static int checks = 0;
     private static int wrong = 0;
 
     private final String title;
     private final PointingNotes notes = new PointingNotes();
+    private int calls = 0;
 
     private Run(String title) {
         this.title = title;
@@ -21,6 +24,7 @@ final class Run {
     /** A run on a new object that has read this text as its paper. */
     static Run on(String title, String text) {
         Run run = new Run(title).text(text);
+        run.counted(1);
         run.check("paper() of " + text, run.notes.paper() >= 0 ? 1 : 0, 1);
         return run;
     }
@@ -31,6 +35,7 @@ final class Run {
 
     /** Empties the text and writes another one. */
     Run text(String text) {
+        counted(1 + text.length());
         notes.wipe();
         for (int i = 0; i < text.length(); i++) check("write of sign " + i + " of " + text, notes.write(text.charAt(i)), i + 1);
         return this;
@@ -49,6 +54,7 @@ final class Run {
 
     /** Compares the whole printed paper, its length and what stands behind its end. */
     Run prints(int how, String text) {
+        counted(text.length() + 2);
         check("print(" + how + ", -1)", notes.print(how, -1), text.length());
         StringBuilder got = new StringBuilder();
         for (int i = 0; i < text.length(); i++) got.append((char) notes.print(how, i));
@@ -56,6 +62,11 @@ final class Run {
         checks++;
         check("print(" + how + ", " + text.length() + ")", notes.print(how, text.length()), PointingNotes.NONE);
         return this;
+    }
+
+    private void counted(int more) {
+        if (calls <= MOST_CALLS && calls + more > MOST_CALLS) tell("the test itself", "over " + MOST_CALLS + " calls", "fewer");
+        calls += more;
     }
 
     void check(String call, long got, long want) {
@@ -68,7 +79,9 @@ final class Run {
         System.out.println(title + ": " + call + " answered " + got + ", due is " + want);
     }
 
-    private long answer(String call) {
+    /** The answer to a call that is written as in due(). */
+    long answer(String call) {
+        counted(1);
         int open = call.indexOf('(');
         String inside = call.substring(open + 1, call.lastIndexOf(')')).strip();
         return invoke(notes, call.substring(0, open).strip(), inside.isEmpty() ? new String[0] : inside.split(","));
