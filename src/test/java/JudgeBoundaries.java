@@ -59,6 +59,9 @@ final class JudgeBoundaries {
         finds.on("AB1r05,CD2r05,B;C").due("judge(1, 3000) = -9; judge(1, 3001) = 0; judge(1, 3009) = 0; judge(1, 3011) = -9; judge(1, 3010) = 0; judge(1, 3012) = 0;"
             + "judge(1, 3029) = -9; judge(1, 3020) = 0; judge(1, 3028) = 0; judge(1, 3030) = 0; judge(1, 3039) = 0; judge(1, 3049) = 0; judge(1, 3101) = -9;"
             + "judge(1, 3109) = 0; judge(1, 3119) = 0; judge(1, 3209) = 0; judge(1, 3909) = 0; judge(1, 3099) = 0");
+        // dead for each of the reasons 1 to 5
+        finds.on("AB1r05,AC2r05,B;i;A,i,a9A").due("judge(1, 3029) = -9; judge(1, 3209) = -9; judge(1, 3109) = -9; judge(1, 3219) = -9; judge(1, 3229) = -9;"
+            + "judge(1, 3228) = 0; judge(1, 3108) = 0; judge(1, 3239) = 0; judge(4, 3029310932093229) = -9");
         Run ten = finds.on("AB1r01,AB1r02,AB1r03,AB1r04;AB1r05,AB1r06,AB1r07,AB1r08;AB1r09,AB1r10");
         ten.due("judge(1, 3137) = -9; judge(1, 3208) = -9; judge(1, 3209) = 0; found(2, 1, 0) = 9; judge(1, 3219) = 0; judge(1, 3218) = 0; judge(1, 3210) = 0");
         finds.fresh().due("judge(1, 3000) = 0; judge(1, 3009) = 0");

@@ -170,8 +170,16 @@ final class TextBoundaries {
     }
 
     private static void wipe() {
-        Sentence.of(3, "Empties the text.").text("AB1r05;i").due("paper() = 2; wipe() = 8; count(0) = 0; fault() = -9; count(1) = 2; write(105) = 1;"
-            + "fault() = -9; paper() = 1").prints(0, "i");
+        Sentence empty = Sentence.of(3, "Empties the text.");
+        empty.text("AB1r05;i").due("paper() = 2; wipe() = 8; count(0) = 0; fault() = -9; count(1) = 2; write(105) = 1; fault() = -9; paper() = 1").prints(0, "i");
+        // what stood behind the end of the new text is gone: nothing of it continues a reference, a note or a paper
+        String before = "AB1r05=2s10@07,i;a0A@09";
+        for (int length : new int[] {0, 1, 6, 11, 14, 16, 20, 23}) {
+            String text = before.substring(0, length);
+            empty.text(before).text(text).due("fault() = -9; paper() = " + (length == 0 ? 0 : length < 17 ? 1 : 2)).prints(0, text);
+        }
+        empty.text(before).text("AB1r0").due("fault() = 5");
+        empty.text(LONGEST).text("A").due("fault() = -9; write(66) = 2; fault() = 2; wipe() = 2; fault() = -9; paper() = 0");
         Sentence length = Sentence.of(3, "Returns the length that it had.");
         length.fresh().due("wipe() = 0; wipe() = 0; write(65) = 1; wipe() = 1; wipe() = 0");
         length.text(LONGEST).due("write(65) = -4; wipe() = 120; wipe() = 0");
